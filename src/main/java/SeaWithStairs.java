@@ -643,7 +643,7 @@ public final class SeaWithStairs {
   }
 
   private void chooseRuler() {
-    laws.ruler = isText(now.ruling) ? texts[now.ruling] : null;
+    laws.ruler = isText(now.ruling) ? texts[now.ruling] : laws.none;
   }
 
   private int passHours(int n) {
@@ -1354,8 +1354,9 @@ public final class SeaWithStairs {
 
   /** What THE TEXT says of a sea, and what holds without its word. */
   private static final class Laws {
-    /** Null: no text rules. */
-    private Text ruler;
+    /** It has no law, and rules when no text does. */
+    private final Text none = new Text();
+    private Text ruler = none;
     private final int[] stack = new int[STACK];
 
     private int takes(Sea sea, int step, int weight) {
@@ -1388,7 +1389,7 @@ public final class SeaWithStairs {
     }
 
     private boolean hasLaw(int word) {
-      return ruler != null && ruler.hasLaw(word - TAKES);
+      return ruler.hasLaw(word - TAKES);
     }
 
     private static int within(int least, int value, int most) {

@@ -8,6 +8,9 @@ public final class ActsTest {
     promise16Undo();
     undoOfEachAct();
     undoKeepsWhatWasTold();
+    undoOfAFullBook();
+    centuriesOfOne();
+    backAndToldAnew();
     promise40And41();
     imageAndActs();
     CHECK.end("acts");
@@ -201,6 +204,58 @@ public final class ActsTest {
     CHECK.due("out is back", x.is(1), 0);
   }
 
+  private static void undoOfAFullBook() {
+    SeaWithStairs x = threeSteps();
+    x.ship(10, 0, 2);
+    x.ship(6, 2, 0);
+    for (int i = 0; i < 11; i++) {
+      x.bind(0, 2 - i % 2 * 2);
+      x.bind(1, i % 2 * 2);
+      x.hour(2);
+    }
+    CHECK.due("full", x.book(-1, 0), 40);
+    int[] then = seen(x);
+    x.bind(0, 0);
+    x.bind(1, 2);
+    x.hour(1);
+    x.centuries(1, 40);
+    x.undo();
+    x.undo();
+    x.undo();
+    x.undo();
+    same("a full book", seen(x), then);
+  }
+
+  private static void centuriesOfOne() {
+    SeaWithStairs x = new SeaWithStairs();
+    x.step(1, 1, 0, 1);
+    x.ship(1, 0, 0);
+    CHECK.due("one step, one ship", x.centuries(0, 2), 1);
+    CHECK.due("flooded by 1 and 110", x.ofStep(0, 2), 111);
+    CHECK.due("raised to 85 mod 30", x.centuries(1, 1), 1);
+    CHECK.due("sill", x.ofStep(0, 1), 25);
+  }
+
+  private static void backAndToldAnew() {
+    SeaWithStairs x = new SeaWithStairs();
+    x.step(1, 1, 1, 1);
+    x.image();
+    x.step(1, 1, 1, 1);
+    x.step(1, 1, 1, 1);
+    x.ship(1, 0, 2);
+    x.hour(2);
+    CHECK.due("worn", x.ofStep(1, 4), 1);
+    CHECK.due("paid", x.ofShip(0, 3), 2);
+    x.back();
+    x.step(2, 2, 2, 2);
+    x.step(2, 2, 2, 2);
+    x.ship(2, 1, 0);
+    CHECK.due("not worn", x.ofStep(1, 4), 0);
+    CHECK.due("nothing paid", x.ofShip(0, 3), 0);
+    CHECK.due("weight", x.ofShip(0, 0), 2);
+    CHECK.due("high", x.ofStep(1, 0), 2);
+  }
+
   private static void promise40And41() {
     SeaWithStairs x = threeSteps();
     x.ship(10, 0, 2);
@@ -222,7 +277,10 @@ public final class ActsTest {
     x.sound(4, 4);
     x.sound(0, 21);
     x.wreck(-1);
+    x.wreck(1);
+    x.wreck(9);
     x.misheard(-1, 0);
+    x.misheard(0, 2);
     x.centuries(5, 5);
     Check.text(x, "hour;");
     x.feed(0, 0, 0, 0, 0);
@@ -237,6 +295,7 @@ public final class ActsTest {
     CHECK.due("sounds", x.high(0, true), 44);
     CHECK.due("wrecks", x.outOfOrder(), 1);
     CHECK.due("words", x.apart(3), 3);
+    CHECK.due("reign", x.inOrder(0), 2);
     Check.text(x, "takes 7;");
     x.by(1);
     CHECK.due("a text in place of the lost one", x.voyage(1, 0, 1, 1, -2), 7);

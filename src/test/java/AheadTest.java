@@ -135,6 +135,14 @@ public final class AheadTest {
     CHECK.due("from -1", x.voyage(1, -1, 1, 3, -2), -100);
     CHECK.due("to 3", x.voyage(1, 0, 3, 3, -2), -100);
 
+    x = stairs(9, "1");
+    CHECK.due("eight risers", x.voyage(1, 0, 8, 48, -2), 8);
+    CHECK.due("one riser", x.voyage(1, 3, 4, 48, -2), 1);
+    CHECK.due("two risers", x.voyage(1, 6, 8, 48, -2), 2);
+    CHECK.due("eight in eight hours", x.voyage(1, 0, 8, 8, -1), 8);
+    CHECK.due("eight in seven hours", x.voyage(1, 0, 8, 7, -1), -100);
+    CHECK.due("nothing changed", x.is(0) + x.about(4), 0);
+
     SeaWithStairs y = new SeaWithStairs();
     y.step(1, 7, 0, 0);
     y.step(1, 0, 0, 0);
@@ -225,5 +233,19 @@ public final class AheadTest {
     CHECK.due("a rope is worn out", x.run(false), -1);
     CHECK.due("none comes last", x.run(true), -1);
     CHECK.due("nothing changed", x.is(0) + x.about(4), 0);
+
+    SeaWithStairs y = new SeaWithStairs();
+    y.step(1, 0, 0, 0);
+    y.step(1, 0, 0, 0);
+    y.ship(1, 0, 1);
+    y.ship(1, 1, 1);
+    Check.text(y, "wears 100;");
+    y.by(0);
+    CHECK.due("the first comes last", y.run(true), 0);
+    CHECK.due("in an hour", y.run(false), 1);
+    y.hour(1);
+    y.bind(0, 0);
+    CHECK.due("it never comes", y.run(false), -1);
+    CHECK.due("none comes last", y.run(true), -1);
   }
 }

@@ -97,6 +97,13 @@ public final class AsksTest {
     CHECK.due("light", x.thing(1, 0), 1);
     CHECK.due("heavier", x.thing(11, 0), 2);
     CHECK.due("heavy", x.thing(21, 0), 3);
+    SeaWithStairs y = sills(0, 0, 0, 0, 0, 0, 0, 0, 0);
+    CHECK.due("no water", y.thing(1, 0), 0);
+    for (int i = 0; i < 9; i++) {
+      y.flood(i, 1);
+    }
+    CHECK.due("past nine", y.thing(1, 0), 9);
+    CHECK.due("from all", y.upThere(1, 8), 511);
   }
 
   private static void promise27UpThere() {
@@ -185,5 +192,16 @@ public final class AsksTest {
     parts(x, 13, 18, 0, 1, 2);
     parts(sills(5, 5, 5, 0), 10, 15 * 3 - 30, 0, 0, 0, 1);
     parts(sills(5, 0, 0, 0, 5), 5, 10, 0, 0, 1, 2, 2);
+    parts(sills(1, 9, 1), 8, 2 * 10 - 8 + 1, 0, 0, 1);
+    // 2 * 2 - 2 and 0 and 1 are worth as much, but are more.
+    parts(sills(0, 2, 0, 1), 2, 3 * 3 - 3 * 2, 0, 1, 1, 1);
+    x = sills(9, 9, 9);
+    x.image();
+    x.step(1, 9, 0, 0);
+    CHECK.due("of four", x.states(0, -1), 4 * 36);
+    x.back();
+    CHECK.due("of three again", x.states(0, -1), 3 * 27);
+    parts(sills(1, 1, 1, 1, 1, 1, 1, 1, 1), 0, 81, 0, 0, 0, 0, 0, 0, 0, 0, 0);
+    parts(sills(9, 8, 7, 6, 5, 4, 3, 2, 1), 999, 45, 0, 1, 2, 3, 4, 5, 6, 7, 8);
   }
 }

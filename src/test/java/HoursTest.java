@@ -221,5 +221,13 @@ public final class HoursTest {
       CHECK.due("step of " + i, x.book(i, 2), (5 + i) % 2);
     }
     CHECK.due("no more than 40", x.book(40, 0), -2);
+    for (int i = 0; i < 165; i++) {
+      x.hour(60);
+    }
+    x.bind(2, 1);
+    x.hour(1);
+    CHECK.due("a late hour", x.book(39, 0), 45 + 165 * 60);
+    CHECK.due("its ship", x.book(39, 1), 2);
+    CHECK.due("its step", x.book(39, 2), 1);
   }
 }

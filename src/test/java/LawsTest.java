@@ -58,6 +58,11 @@ public final class LawsTest {
   private static void bounds() {
     // 9999 * 9999 is cut to 1000000, each time.
     due("9999*9999/1000", 1000);
+    due("9999*9999-9999*100-99", 1);
+    due("-9999*9999+9999*100+101", 1);
+    due("(9999*100+9999)-9999*100-99", 1);
+    due("(-9999*100-9999)+9999*100+101", 1);
+    due("(100*9999+100)/1000", 1000);
 
   }
 
@@ -84,6 +89,10 @@ public final class LawsTest {
     x.hour(1);
     CHECK.due("hauls with none down", x.ofShip(0, 3), 6010);
     CHECK.due("wears by one weight", x.ofStep(1, 4), 67);
+    x.mend(1);
+    x.bind(0, 2);
+    x.hour(1);
+    CHECK.due("wears by the one down", x.ofStep(1, 4), 30);
   }
 
   private static void namesBeside() {
@@ -139,6 +148,14 @@ public final class LawsTest {
     asked("not 1=2 and 1=2", false);
     asked("1=2 or 1=2 or 1=1", true);
     asked("1=1 and 1=1 and 1=2", false);
+    for (String one : new String[] {"1<2", "1<=2", "2>1", "2>=1", "1=1", "1#2", "not 1=2"}) {
+      for (String other : new String[] {"1<2", "1<=2", "2>1", "2>=1", "1=1", "1#2", "not 1=2"}) {
+        asked(one + " and " + other, true);
+        asked("not " + one + " or not " + other, false);
+        asked("not " + one + " or " + other, true);
+        asked(one + " and not " + other, false);
+      }
+    }
     asked("weight+1=11", true);
     asked("water*2=46", true);
     asked("below water-above water=20", true);

@@ -8,6 +8,8 @@ public final class TextsTest {
     promise6Text();
     promise7Fault();
     faultsOfPlace();
+    faultsOfBytes();
+    faultsAtTheLastByte();
     faultsOfNumbers();
     faultsOfNesting();
     faultsOfNamesAndClauses();
@@ -15,6 +17,7 @@ public final class TextsTest {
     promise8By();
     promise14Played();
     promise14PlayedHours();
+    faultsLeaveNothing();
     CHECK.end("texts");
   }
 
@@ -112,6 +115,12 @@ public final class TextsTest {
     fault("Mend 1;", 1, 0);
     fault("mending 1;", 1, 0);
     fault("men 1;", 1, 0);
+    fault("mendz 1;", 1, 0);
+    fault("mendZ 1;", 1, 0);
+    fault("menda 1;", 1, 0);
+    fault("mendA 1;", 1, 0);
+    fault("falls 1<=", 1, 9);
+    fault("falls 1<", 1, 8);
     fault("mend -1;", 1, 5);
     fault("mend 1,", 1, 6);
     fault("mend 1 2;", 1, 7);
@@ -151,6 +160,37 @@ public final class TextsTest {
     fault("falls 1<2 not 1<2;", 1, 10);
     fault("falls not;", 1, 9);
     fault("falls -not 1<2;", 1, 7);
+  }
+
+  /** Every byte that begins no token, and every one that does but can't stand there. */
+  private static void faultsOfBytes() {
+    for (int sign = 0; sign < 256; sign++) {
+      boolean blank = sign == ' ' || sign == '\n';
+      if (!blank && !Character.isDigit(sign) && sign != '(' && sign != '-') {
+        fault("takes " + (char) sign + ";", 1, 6);
+      }
+      if (!blank && sign != ';' && sign != '<' && sign != '>') {
+        fault("falls 1=1" + (char) sign + "=1;", 1, Character.isDigit(sign) || isSum(sign) ? 10 : 9);
+      }
+      if (!blank) {
+        fault("" + (char) sign, 1, 0);
+      }
+    }
+  }
+
+  private static boolean isSum(int sign) {
+    return sign == '+' || sign == '-' || sign == '*' || sign == '/';
+  }
+
+  private static void faultsAtTheLastByte() {
+    String blanks = " ".repeat(290);
+    fault(blanks + "       men", 1, 297);
+    fault(blanks + "      mend", 1, 300);
+    fault(blanks + "     hour1", 1, 300);
+    fault(blanks + "   hour 61", 2, 298);
+    fault(blanks + " falls 1<=", 1, 300);
+    fault(blanks + "falls 1=1<", 1, 299);
+    fault(blanks + "         ;", 1, 299);
   }
 
   private static void faultsOfNumbers() {
@@ -275,6 +315,8 @@ public final class TextsTest {
     CHECK.due("steps", x.about(0), 2);
     CHECK.due("ships", x.about(1), 1);
     CHECK.due("its laws do not rule", x.ofShip(0, 3), 3);
+    CHECK.due("fish", x.ofStep(0, 3), 6);
+    CHECK.due("fish that came", x.ofStep(1, 3), 2);
     CHECK.due("acts", x.about(4), 1);
     Check.text(x, "flood 1 by 9;wears 3;raise 0 to 3;flood 1 by 9;");
     CHECK.due("it is so", x.played(1), 2);
@@ -319,5 +361,21 @@ public final class TextsTest {
     CHECK.due("hour", x.is(0), 9999);
     CHECK.due("none can", x.played(0), 0);
     CHECK.due("hour", x.is(0), 9999);
+  }
+
+  /** What was read of a text up to its fault is no part of the next one. */
+  private static void faultsLeaveNothing() {
+    SeaWithStairs x = new SeaWithStairs();
+    x.step(1, 1, 1, 1);
+    for (int i = 0; i < 20; i++) {
+      Check.text(x, "hour 1;hour 1;wears 1;hauls 2;takes 1+1+1+1+1+1+1+1+1+1+1+1+1+1+1+1+1+1+1+1+1;flows 5;falls 1=1;no");
+      CHECK.due("fault", x.fault(0), 1);
+    }
+    CHECK.due("a text", Check.text(x, "hour 1;takes 2+7;"), 0);
+    x.by(0);
+    CHECK.due("its law", x.states(0, -1), 9);
+    CHECK.due("no other law", x.thing(1, 0), 0);
+    CHECK.due("played", x.played(0), -1);
+    CHECK.due("its hour alone", x.is(0), 1);
   }
 }

@@ -175,6 +175,10 @@ public final class ToldTest {
     CHECK.due("one long one", misheard(0, 9, 9, 1, 1, 8, 8, 2, 2, 7, 7, 3, 3, 6, 6, 4, 4, 5).chains(10), 1);
     CHECK.due("by these n alone", misheard(0, 9, 9, 1).chains(9), 9);
     CHECK.due("by all", misheard(0, 9, 9, 1).chains(10), 8);
+    CHECK.due("two twos", misheard(0, 1, 2, 3).chains(4), 2);
+    CHECK.due("two other twos", misheard(2, 3, 0, 1).chains(10), 8);
+    CHECK.due("the most twos",
+        misheard(8, 9, 7, 8, 6, 7, 5, 6, 4, 5, 3, 4, 2, 3, 1, 2, 0, 1, 0, 9, 0, 8, 0, 7, 0, 6, 0, 5, 0, 4).chains(10), 1);
     CHECK.due("a ring", misheard(0, 1, 1, 2, 2, 0, 2, 0).chains(3), 1);
   }
 }
