@@ -412,7 +412,7 @@ public final class SeaWithStairs {
       return NONE;
     }
     int bits = 0;
-    for (int from = 0; from <= step; from++) {
+    for (int from = 0; from < sea.steps; from++) {
       if (endOfFall(weight, from) >= step) {
         bits |= 1 << from;
       }

@@ -280,7 +280,8 @@ public final class ActsTest {
     x.wreck(1);
     x.wreck(9);
     x.misheard(-1, 0);
-    x.misheard(0, 2);
+    x.misheard(0, 1);
+    x.misheard(0, 1);
     x.centuries(5, 5);
     Check.text(x, "hour;");
     x.feed(0, 0, 0, 0, 0);

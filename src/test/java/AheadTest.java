@@ -138,6 +138,7 @@ public final class AheadTest {
     x = stairs(9, "1");
     CHECK.due("eight risers", x.voyage(1, 0, 8, 48, -2), 8);
     CHECK.due("one riser", x.voyage(1, 3, 4, 48, -2), 1);
+    CHECK.due("one riser in one hour", x.voyage(1, 3, 4, 1, -2), 1);
     CHECK.due("two risers", x.voyage(1, 6, 8, 48, -2), 2);
     CHECK.due("eight in eight hours", x.voyage(1, 0, 8, 8, -1), 8);
     CHECK.due("eight in seven hours", x.voyage(1, 0, 8, 7, -1), -100);

@@ -111,6 +111,13 @@ public final class LawsTest {
     CHECK.due("none above", x.ofStep(0, 6), 13);
     CHECK.due("water at most", x.ofStep(1, 6), 23);
     CHECK.due("none below", x.ofStep(2, 6), 23);
+    for (int i = 3; i < 9; i++) {
+      x.step(1, 1, 500, 1);
+    }
+    CHECK.due("none below nine", x.ofStep(8, 6), 500);
+    CHECK.due("all below eight", x.ofStep(7, 6), 500);
+    x.flood(8, 77);
+    CHECK.due("above nine", x.ofStep(8, 6), 500);
     x.hour(2);
     x.bind(0, 0);
     CHECK.due("worn above", x.voyage(1, 1, 2, 1, -2), 160);

@@ -987,7 +987,8 @@ final class Model {
     if (out(1, weight, 99) || noStep(step)) {
       return NONE;
     }
-    int bits = 1 << step;
+    // From below it the thing is past it already.
+    int bits = (1 << steps()) - (1 << step);
     for (int s = step - 1; s >= 0 && falls(all.sea, s, weight); s--) {
       bits += 1 << s;
     }

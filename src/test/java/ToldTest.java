@@ -175,6 +175,7 @@ public final class ToldTest {
     CHECK.due("one long one", misheard(0, 9, 9, 1, 1, 8, 8, 2, 2, 7, 7, 3, 3, 6, 6, 4, 4, 5).chains(10), 1);
     CHECK.due("by these n alone", misheard(0, 9, 9, 1).chains(9), 9);
     CHECK.due("by all", misheard(0, 9, 9, 1).chains(10), 8);
+    CHECK.due("one two", misheard(0, 1).chains(2), 1);
     CHECK.due("two twos", misheard(0, 1, 2, 3).chains(4), 2);
     CHECK.due("two other twos", misheard(2, 3, 0, 1).chains(10), 8);
     CHECK.due("the most twos",
