@@ -412,7 +412,8 @@ public final class SeaWithStairs {
       return NONE;
     }
     int bits = 0;
-    for (int from = 0; from < sea.steps; from++) {
+    // What falls from below the step never comes there: it only goes down.
+    for (int from = 0; from <= step; from++) {
       if (endOfFall(weight, from) >= step) {
         bits |= 1 << from;
       }

@@ -110,11 +110,11 @@ public final class AsksTest {
     SeaWithStairs x = ships();
     x.step(9, 9, 9, 9);
     CHECK.due("all", x.upThere(5, 3), 15);
-    CHECK.due("from below it is past it", x.upThere(5, 2), 15);
-    CHECK.due("from all to the top or past it", x.upThere(5, 0), 15);
+    CHECK.due("not from below, though it falls there too", x.upThere(5, 2), 7);
+    CHECK.due("to the top from itself alone", x.upThere(5, 0), 1);
     x.raise(1, 2);
-    CHECK.due("to 1", x.upThere(5, 1), 15);
-    CHECK.due("1 holds", x.upThere(5, 2), 12);
+    CHECK.due("to 1 from above and itself", x.upThere(5, 1), 3);
+    CHECK.due("1 holds", x.upThere(5, 2), 4);
     CHECK.due("1 holds", x.upThere(5, 3), 12);
     CHECK.due("weight 0", x.upThere(0, 0), -1);
     CHECK.due("weight 100", x.upThere(100, 0), -1);
@@ -122,8 +122,12 @@ public final class AsksTest {
     CHECK.due("step -1", x.upThere(1, -1), -1);
     Check.text(x, "falls weight>10;");
     x.by(0);
-    CHECK.due("light", x.upThere(10, 2), 12);
-    CHECK.due("heavy", x.upThere(11, 2), 15);
+    CHECK.due("light", x.upThere(10, 2), 4);
+    CHECK.due("heavy", x.upThere(11, 2), 7);
+    SeaWithStairs y = sills(0, 0, 0, 0, 0, 0, 0, 0, 0);
+    for (int i = 0; i < 9; i++) {
+      CHECK.due("nothing goes on: from itself alone", y.upThere(1, i), 1 << i);
+    }
   }
 
   private static void promise28ToRaise() {

@@ -987,8 +987,7 @@ final class Model {
     if (out(1, weight, 99) || noStep(step)) {
       return NONE;
     }
-    // From below it the thing is past it already.
-    int bits = (1 << steps()) - (1 << step);
+    int bits = 1 << step;
     for (int s = step - 1; s >= 0 && falls(all.sea, s, weight); s--) {
       bits += 1 << s;
     }
