@@ -147,23 +147,26 @@ public final class ActsTest {
     same("flooded", seen(x), first);
   }
 
+  /** All that acts change; asks little enough for 512 calls. */
   private static int[] seen(SeaWithStairs x) {
     int[] all = new int[160];
     int at = 0;
     for (int i = 0; i < 3; i++) {
-      for (int what = 0; what < 7; what++) {
+      for (int what = 1; what < 5; what++) {
         all[at++] = x.ofStep(i, what);
       }
     }
     for (int i = 0; i < 2; i++) {
-      for (int what = 0; what < 4; what++) {
+      for (int what = 1; what < 4; what++) {
         all[at++] = x.ofShip(i, what);
       }
     }
     for (int what = 0; what < 4; what++) {
       all[at++] = x.is(what);
     }
-    for (int i = -1; i < 40; i++) {
+    int passages = x.book(-1, 0);
+    all[at++] = passages;
+    for (int i = 0; i < passages; i++) {
       for (int what = 0; what < 3; what++) {
         all[at++] = x.book(i, what);
       }

@@ -1,9 +1,13 @@
 import java.util.Random;
 
-/** Compares long drawn runs with the model: each run is 512 calls on a new object. */
+/** Compares long drawn runs with the model: each run is 512 calls on a new object, and no more. */
 public final class ModelTest {
-  private static final int RUNS = 2500;
+  private static final int RUNS = 5000;
   private static final int CALLS = 512;
+  /** In percent: how often a text is told. */
+  private static final int TEXTS = 5;
+  /** No look and no text takes more calls than this. */
+  private static final int MOST_AT_ONCE = 24;
   private static final String[] NAMES =
       {"hour", "step", "high", "sill", "water", "fish", "worn", "weight", "other", "takes", "wibble"};
   private static final String[] RELATIONS = {"<", "<=", ">", ">=", "=", "#"};
@@ -13,6 +17,8 @@ public final class ModelTest {
   private SeaWithStairs x;
   private Model m;
   private String trail;
+  /** How many calls may follow. */
+  private int left;
   /** In percent: how often what is drawn is meant to be wrong. */
   private int slips;
 
@@ -38,19 +44,16 @@ public final class ModelTest {
     m = new Model();
     slips = new int[] {0, 3, 10}[random.nextInt(3)];
     int acting = new int[] {20, 50, 80}[random.nextInt(3)];
-    int left = CALLS;
-    while (left > 0 && check.allAsDue()) {
-      trail = "run " + seed + " call " + (CALLS - left) + ": ";
+    left = CALLS;
+    while (left >= MOST_AT_ONCE && check.allAsDue()) {
+      trail = "run " + seed + ", " + left + " calls ahead of its end: ";
       int kind = random.nextInt(100);
-      if (left > 20 && kind < 6) {
-        left -= tellText();
+      if (kind < TEXTS) {
+        tellText();
+      } else if (kind < acting) {
+        act();
       } else {
-        if (kind < acting) {
-          act();
-        } else {
-          look();
-        }
-        left--;
+        look();
       }
     }
   }
@@ -79,12 +82,14 @@ public final class ModelTest {
     return (1 << m.about(1)) - 1;
   }
 
+  /** Each call is asked for its answer once. */
   private void due(String call, long got, long want) {
+    left--;
     check.due(trail + call, got, want);
   }
 
   private void due(String call, boolean got, boolean want) {
-    check.due(trail + call, got, want);
+    due(call, got ? 1 : 0, want ? 1 : 0);
   }
 
   // ---- Calls that change something.
@@ -185,29 +190,28 @@ public final class ModelTest {
   private void look() {
     switch (random.nextInt(17)) {
       case 0 -> {
-        for (int what = -1; what <= 7; what++) {
+        for (int i = 0; i < 4; i++) {
           int step = aStep();
+          int what = between(0, 6);
           due("ofStep", x.ofStep(step, what), m.ofStep(step, what));
         }
       }
       case 1 -> {
-        for (int what = -1; what <= 4; what++) {
+        for (int i = 0; i < 4; i++) {
           int ship = aShip();
+          int what = between(0, 3);
           due("ofShip", x.ofShip(ship, what), m.ofShip(ship, what));
         }
       }
       case 2 -> {
-        for (int what = -1; what <= 9; what++) {
+        for (int i = 0; i < 3; i++) {
+          int what = between(0, 3);
           due("is " + what, x.is(what), m.is(what));
-          due("about " + what, x.about(what), m.about(what));
+          int about = between(0, 8);
+          due("about " + about, x.about(about), m.about(about));
         }
       }
-      case 3 -> {
-        for (int i = -2; i <= 40; i++) {
-          int what = between(0, 2);
-          due("book", x.book(i, what), m.book(i, what));
-        }
-      }
+      case 3 -> lookAtBook();
       case 4, 5 -> lookAhead();
       case 6 -> lookAtVoyage();
       case 7 -> lookAtHauling();
@@ -223,14 +227,10 @@ public final class ModelTest {
         due("high", x.high(step, false), m.high(step, false));
         due("high", x.high(step, true), m.high(step, true));
       }
-      case 11 -> {
-        for (int i = -2; i <= 10; i++) {
-          due("inOrder " + i, x.inOrder(i), m.inOrder(i));
-        }
-        due("outOfOrder", x.outOfOrder(), m.outOfOrder());
-      }
+      case 11 -> lookAtOrder();
       case 12 -> {
-        for (int n = 0; n <= 11; n++) {
+        for (int i = 0; i < 3; i++) {
+          int n = between(1, 10);
           due("apart " + n, x.apart(n), m.apart(n));
           due("chains " + n, x.chains(n), m.chains(n));
         }
@@ -245,15 +245,31 @@ public final class ModelTest {
         due("run last", x.run(true), m.run(true));
       }
       case 15 -> {
-        for (int what = -1; what <= 2; what++) {
-          due("fault", x.fault(what), m.fault(what));
-        }
+        int what = between(0, 1);
+        due("fault", x.fault(what), m.fault(what));
       }
       default -> {
         int step = aStep();
         due("toRaise", x.toRaise(step), m.toRaise(step));
       }
     }
+  }
+
+  private void lookAtBook() {
+    int booked = m.book(-1, 0);
+    due("book", x.book(-1, 0), booked);
+    for (int i : new int[] {0, booked - 1, booked, between(0, 39), between(0, Math.max(0, booked - 1))}) {
+      int what = between(0, 2);
+      due("book " + i, x.book(i, what), m.book(i, what));
+    }
+  }
+
+  private void lookAtOrder() {
+    int most = m.inOrder(-1);
+    for (int i = -1; i <= most; i++) {
+      due("inOrder " + i, x.inOrder(i), m.inOrder(i));
+    }
+    due("outOfOrder", x.outOfOrder(), m.outOfOrder());
   }
 
   private void lookAhead() {
@@ -271,7 +287,8 @@ public final class ModelTest {
     int from = between(0, Math.max(0, m.about(0) - 2));
     int to = between(from + 1, Math.max(from + 1, m.about(0) - 1));
     int n = between(1, random.nextBoolean() ? 48 : 9);
-    for (int i = -3; i <= 8; i++) {
+    int risers = Math.min(8, Math.max(0, to - from));
+    for (int i = -2; i <= risers; i++) {
       due("voyage " + i, x.voyage(weight, from, to, n, i), m.voyage(weight, from, to, n, i));
     }
   }
@@ -280,7 +297,8 @@ public final class ModelTest {
     int step = aStep();
     int up = slip() ? random.nextInt() : random.nextInt(128) & random.nextInt(128) & ships();
     int down = slip() ? random.nextInt() : random.nextInt(128) & ships() & ~up;
-    for (int ship = -2; ship <= 7; ship++) {
+    for (int i = 0; i < 5; i++) {
+      int ship = i == 0 ? -1 : aShip();
       due("hauling " + ship, x.hauling(step, up, down, ship), m.hauling(step, up, down, ship));
     }
   }
@@ -294,9 +312,8 @@ public final class ModelTest {
 
   // ---- Texts.
 
-  private int tellText() {
+  private void tellText() {
     String text = random.nextInt(3) == 0 ? spoiled(aText()) : aText();
-    int calls = 0;
     due("end", x.end(0), m.end(0));
     for (int from = 0; from < text.length(); from += 20) {
       int[] fours = new int[5];
@@ -306,7 +323,6 @@ public final class ModelTest {
       }
       due("feed", x.feed(fours[0], fours[1], fours[2], fours[3], fours[4]),
           m.feed(fours[0], fours[1], fours[2], fours[3], fours[4]));
-      calls++;
     }
     int n = between(text.length(), text.length());
     due("end", x.end(n), m.end(n));
@@ -317,7 +333,6 @@ public final class ModelTest {
     if (random.nextBoolean() && ruling >= 0) {
       due("by", x.by(ruling), m.by(ruling));
     }
-    return calls + 6;
   }
 
   private String spoiled(String text) {

@@ -124,6 +124,13 @@ public final class TextsTest {
     fault("mend -1;", 1, 5);
     fault("mend 1,", 1, 6);
     fault("mend 1 2;", 1, 7);
+    fault("me nd 1;", 1, 0);
+    fault("mend\n1\n0;", 1, 7);
+    fault("takes 1 0;", 1, 8);
+    fault("takes sill sill;", 1, 11);
+    fault("takes sillsill;", 1, 6);
+    fault("takes 1sill;", 1, 7);
+    fault("takes sill1;", 1, 10);
     fault("mend! 1;", 1, 4);
     fault("mend\t1;", 1, 4);
     fault("mend 1;\0", 1, 7);
